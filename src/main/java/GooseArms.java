@@ -744,7 +744,7 @@ public final class GooseArms {
 
     /** All that a text tells, that is kept, and that is tried. */
     private static final class Court {
-        final int[] laws = {2, 3, 1, 20};
+        final int[] laws = LAWS_AT_FIRST.clone();
         int sayings = 0;
         int said = 0;
         final int[] topics = new int[MOST_SAYINGS];
@@ -1088,15 +1088,15 @@ public final class GooseArms {
             end = start;
             if (start >= length) {
                 sort = END;
-            } else if (isLetter(start)) {
+            } else if (isLetter(bytes[start])) {
                 sort = NAME;
-                while (isLetter(end)) {
+                while (end < length && isLetter(bytes[end])) {
                     end++;
                 }
-            } else if (isDigit(start)) {
+            } else if (isDigit(bytes[start])) {
                 sort = NUMBER;
                 value = 0;
-                while (isDigit(end)) {
+                while (end < length && isDigit(bytes[end])) {
                     value = end - start < MOST_DIGITS ? value * 10 + bytes[end] - '0' : TOO_MUCH;
                     end++;
                 }
@@ -1106,12 +1106,12 @@ public final class GooseArms {
             }
         }
 
-        private boolean isLetter(int i) {
-            return i < length && bytes[i] >= 'a' && bytes[i] <= 'z';
+        private static boolean isLetter(byte b) {
+            return b >= 'a' && b <= 'z';
         }
 
-        private boolean isDigit(int i) {
-            return i < length && bytes[i] >= '0' && bytes[i] <= '9';
+        private static boolean isDigit(byte b) {
+            return b >= '0' && b <= '9';
         }
 
         private boolean isName(String name) {
