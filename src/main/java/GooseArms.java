@@ -1250,7 +1250,7 @@ public final class GooseArms {
         }
 
         /** Super is a body by its number, an act without super goes by the kind; behind a parting by 0 none begins. */
-        static int runs(Deed deed, int body, int x, int depth) {
+        private static int runs(Deed deed, int body, int x, int depth) {
             if (deed.partedByZero || depth > MOST_DEEP) {
                 return 0;
             }

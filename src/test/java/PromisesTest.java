@@ -187,6 +187,12 @@ public final class PromisesTest {
         fault("say 1 heat 3 heat 3;", 13);
         fault("say 1 so so;", 9);
         fault("says 1;", 0);
+        fault("sayz 1;", 0);
+        fault("asay 1;", 0);
+        fault("say{1;", 3);
+        fault("say`1;", 3);
+        fault("say 1:", 5);
+        fault("say 1/", 5);
         fault("  sa", 2);
         fault("Say 1;", 0);
         fault("say 1,", 5);
