@@ -38,6 +38,7 @@ public final class EdgesCaseTest {
         chillsTries();
         state();
         alike();
+        asItIsAlready();
         Edge.everyPromise(1, 1);
         Edge.everyPromise(4, 19);
         Edge.ends();
@@ -818,6 +819,30 @@ public final class EdgesCaseTest {
         due("the first and the last SO", full.state(2), 1 + 2048);
     }
 
+    private static void asItIsAlready() {
+        sentence(4, "A LAW becomes v: what it was.");
+        busy("COLD as it is", g -> g.set(0, 1), 1);
+        busy("DRAUGHT as it is", g -> g.set(3, 30), 30);
+        sentence(8, "of a SAYING becomes v: what it was.");
+        busy("TOPIC as it is", g -> g.alter(3, 0, 3), 3);
+        busy("HEAT as it is", g -> g.alter(0, 1, 9), 9);
+        busy("SO as it is", g -> g.alter(0, 2, 1), 1);
+        sentence(12, "One becomes one of another KIND, with another MIND: the KIND that it was.");
+        busy("KIND and MIND as they are", g -> g.mind(1, 1, 254), 1);
+        sentence(13, "TENDER becomes v: what it was.");
+        busy("TENDER as it is", g -> g.tender(2, 16), 16);
+        sentence(15, "SAID becomes 0, all ARMS are bare: what SAID was.");
+        Edge.leaves("bare as they are", EdgesCaseTest::busyAnew, GooseArms::anew, 0);
+        sentence(16, "z becomes v: what it was.");
+        busy("z as it is", g -> g.seed(12345), 12345);
+    }
+
+    private static GooseArms busyAnew() {
+        GooseArms g = Edge.busy();
+        g.anew();
+        return g;
+    }
+
     private static void alike() {
         sentence(19, "ALIKE: the most HEARERS of whom all ARMS are the same then.");
         due("nobody", Edge.courtOf("say 0;").state(5), 0);
@@ -833,6 +858,10 @@ public final class EdgesCaseTest {
         due("no two alike", all.state(5), 1);
         all.say(1);
         due("two alike now, none then", all.state(5), 1);
+        GooseArms twelfth = Edge.courtOf("say 0 heat 0;".repeat(11) + "say 7;hearer minds 1;hearer minds 128;");
+        due("the twelfth tells them apart", twelfth.state(5), 1);
+        twelfth.alter(11, 0, 6);
+        due("it doesn't any more", twelfth.state(5), 2);
         Edge.leaves("ALIKE is tried", Edge::busy, b -> b.state(5), 2);
     }
 }

@@ -18,6 +18,7 @@ public final class EdgesTextTest {
         textOrder();
         textOptions();
         textNames();
+        textOtherNames();
         textNumbers();
         textBlanks();
         textOtherBytes();
@@ -157,6 +158,15 @@ public final class EdgesTextTest {
         due("SAYINGS", g.state(1), 0);
         due("ARMS", g.state(4), 0);
         due("z", g.seed(3), 12345);
+        due("one that tells all LAWS", Edge.told(g, "cold 9;oath 8;wear 7;draught 6;"), 0);
+        due("one with a fault", Edge.told(g, "cold 8;oath 7;wear 6;draught 5;x"), -131);
+        due("what was told before", g.lawOf(0) + g.lawOf(1) + g.lawOf(2) + g.lawOf(3), 30);
+        due("one that tells none", Edge.told(g, "say 1;judge;judge;"), 2);
+        for (int law = 0; law < 4; law++) {
+            due("LAW " + law, g.lawOf(law), laws[law]);
+        }
+        due("one SAYING", g.state(1), 1);
+        g.court();
         sentence(3, "There are no ROWS then.");
         due("ROWS", g.many(4), 0);
         due("a ROW", g.row(0, 0), -9);
@@ -164,6 +174,7 @@ public final class EdgesTextTest {
         sentence(3, "THE TAPE becomes all");
         due("SHEETS stay", g.item(0, 0, 0), 1);
         due("a SHELF with a row stays", g.taken(1, 10), 4);
+        Edge.told(g, "judge;judge;");
         due("a SHELF with one of the HEARERS stays", g.taken(0, 0), 1);
         due("THE TRACE stays", g.many(6), 3);
         due("what is kept stays", g.again(), 1);
@@ -289,6 +300,40 @@ public final class EdgesTextTest {
         fault("colds 1;", 0);
         fault("zzz;", 0);
         fault("a;", 0);
+        for (String letter : new String[] {"a", "z"}) {
+            fault("say" + letter + " 1;", 0);
+            fault(letter + "say 1;", 0);
+            fault("say 1 heat" + letter + " 3;", 6);
+            fault("say 1 so" + letter + ";", 6);
+            fault("judge minds" + letter + " 3;", 6);
+        }
+    }
+
+    private static void textOtherNames() {
+        sentence(3, "the first NAME, NUMBER or other byte that can't stand there");
+        String[] names = {"say", "hearer", "judge", "advocate", "elder", "liar", "horse", "cold", "oath", "wear", "draught"};
+        for (String name : names) {
+            for (int i = 0; i < name.length(); i++) {
+                fault(other(name, i) + " 1;", 0);
+            }
+            fault(name.substring(1) + " 1;", 0);
+            fault(name.substring(0, name.length() - 1) + " 1;", 0);
+        }
+        for (String name : new String[] {"heat", "so"}) {
+            for (int i = 0; i < name.length(); i++) {
+                fault("say 1 " + other(name, i) + " 1;", 6);
+            }
+        }
+        for (String name : new String[] {"tender", "minds"}) {
+            for (int i = 0; i < name.length(); i++) {
+                fault("judge " + other(name, i) + " 1;", 6);
+            }
+        }
+    }
+
+    /** The name with another letter at a place. */
+    private static String other(String name, int place) {
+        return name.substring(0, place) + "q" + name.substring(place + 1);
     }
 
     private static void textNumbers() {

@@ -11,6 +11,8 @@ public final class EdgesThingsTest {
     public static void main(String[] args) {
         prove();
         proveLeft();
+        proveTries();
+        asItIsAlready();
         row();
         alterRow();
         judge();
@@ -31,6 +33,7 @@ public final class EdgesThingsTest {
         actNone();
         actWraps();
         actWrapsInSuper();
+        actEach();
         actCut();
         actByZero();
         actNow();
@@ -102,6 +105,18 @@ public final class EdgesThingsTest {
         due("no SAYINGS at all", Edge.courtOf("hearer;").prove(0, 10), 0);
         sentence(32, OF_SEVERAL);
         Edge.leaves("11 when none is left", Edge::busyAllSaid, b -> b.prove(0, 11), BAD);
+    }
+
+    private static GooseArms busyProved() {
+        GooseArms g = Edge.busy();
+        g.prove(1, 3);
+        return g;
+    }
+
+    private static void proveTries() {
+        sentence(32, "n more SAYINGS, tried");
+        Edge.leaves("the same ROWS again", EdgesThingsTest::busyProved, g -> g.prove(1, 3), 3);
+        Edge.leaves("those of all that are left", EdgesThingsTest::busyProved, g -> g.prove(1, 10), 3);
     }
 
     private static void row() {
@@ -196,6 +211,28 @@ public final class EdgesThingsTest {
         due("as it was", more.judge(0), 0);
     }
 
+    private static void asItIsAlready() {
+        sentence(34, "It becomes v: what it was.");
+        busy("a ROW's number as it is", g -> g.alterRow(1, 1, 60), 60);
+        sentence(36, "n numbers (0 to 8) of a SHEET taken for bytes");
+        busy("no numbers", g -> g.minds(0, 4, 2, 0), 0);
+        sentence(37, "A SHEET becomes a row of n of a sort, all 0, or missing");
+        busy("missing as it is", g -> g.sheet(3, -1, 0), 1);
+        sentence(38, "Item i becomes v");
+        busy("an item as it is", g -> g.put(0, 0, 1), 1);
+        busy("a long as it is", g -> g.put(1, 1, -9), 1);
+        sentence(40, "A SHELF holds one of the HEARERS (what 0, its number n), the row of SHEET n (1; nothing, if missing), nothing (2): 1.");
+        busy("one of the HEARERS as it is", g -> g.shelf(0, 0, 1), 1);
+        busy("a row as it is", g -> g.shelf(1, 1, 0), 1);
+        busy("nothing as it is", g -> g.shelf(3, 2, 0), 1);
+        busy("nothing as it is, by a missing SHEET", g -> g.shelf(3, 1, 3), 1);
+        sentence(42, "An ACT (0 to 3) of the thing on a SHELF, with x.");
+        // the judge is as TENDER as 10, its number 1: twice (26 less 10)
+        busy("the same ACT again", g -> g.act(0, READS, 5), 32);
+        sentence(45, "is kept: 1.");
+        Edge.leaves("kept as it is", EdgesThingsTest::keptAsItIs, GooseArms::keep, 1);
+    }
+
     // ---- SHEETS ----
 
     private static void mindsNumbers() {
@@ -217,6 +254,11 @@ public final class EdgesThingsTest {
         busy("one from the last on", g -> g.minds(0, 0, 2, 1) * 10 + restored(g), 10);
         due("eight of eight", eightWithSheet().minds(0, 0, 0, 8), 8);
         sentence(36, OF_SEVERAL);
+        for (int n : new int[] {-1, 9}) {
+            busy("no such n, missing", g -> g.minds(2, 0, 0, n), BAD);
+            busy("no such n, longs", g -> g.minds(1, 0, 0, n), BAD);
+            busy("no such n, outside", g -> g.minds(0, 5, 0, n), BAD);
+        }
         busy("nobody, missing", g -> g.minds(2, 0, 3, 1), BAD);
         busy("beyond the last one, missing", g -> g.minds(2, 0, 2, 2), BAD);
         busy("missing, outside", g -> g.minds(3, -1, 0, 1), -11);
@@ -304,8 +346,10 @@ public final class EdgesThingsTest {
             due("40 of sort " + at, g.sheet(at, at, 40), 1);
             due("the last item", g.put(at, 39, -1), 1);
             due("no 41st", g.put(at, 40, -1), -12);
+            due("the first item", g.put(at, 0, -1), 1);
             due("anew", g.sheet(at, at, 40), 1);
-            due("all 0", g.item(at, at, 39), 0);
+            due("all 0, the first", g.item(at, at, 0), 0);
+            due("all 0, the last", g.item(at, at, 39), 0);
             due("none", g.sheet(at, at, 0), 1);
             due("no item", g.item(at, at, 0), -12);
             due("one", g.sheet(at, at, 1), 1);
@@ -601,6 +645,8 @@ public final class EdgesThingsTest {
         due("40: 0 less MIN", thing(LIAR, 4, 0).act(0, SHAKES, MIN), MIN);
         // MIN less 4 (shakes) less 1 (reads) is MAX - 4; and parts(0) is 0 by 1
         due("31: wrapped, ^ 150, and 0", thing(ADVOCATE, 0, 1).act(0, SWEARS, MIN), (MAX - 4) ^ 150);
+        // 5 times -1288490218 is MAX - 145 when wrapped, less 5 is MAX - 150, ^ 150 is MAX; and parts(1) is 1 by 1
+        due("31: MAX and 1", thing(ADVOCATE, 1, 2).act(0, SWEARS, -1288490218), MIN);
         due("50: 3 times a third of 2 to the 32nd less 1 is -1", thing(ELDER, 0, 1).act(0, PARTS, 1431655765), 1);
         due("50: 3 times MIN is MIN", thing(ELDER, 0, 1).act(0, PARTS, MIN), MIN + 2);
         due("50: MAX and 2", thing(ELDER, 0, 1).act(0, PARTS, -715827883), MIN + 1);
@@ -609,6 +655,30 @@ public final class EdgesThingsTest {
         due("60: twice MIN and 150", thing(HORSE, 0, 0).act(0, SWEARS, MIN), 300);
         // 7 shakes at its own number 7: 42; MIN by 1 less 42
         due("61: MIN less 42", thing(HORSE, 7, 8).act(0, PARTS, MIN), MAX - 41);
+    }
+
+    private static void actsOf(int kind, int x, int shakes, int reads, int parts, int swears) {
+        int[] want = {shakes, reads, parts, swears};
+        GooseArms g = thing(kind, 3, 5);
+        for (int act = SHAKES; act <= SWEARS; act++) {
+            due("ACT " + act + " of " + kind, g.act(0, act, x), want[act]);
+        }
+    }
+
+    private static void actEach() {
+        sentence(42, "ACTS of things, with a number x (ints that wrap): 0 shakes, 1 reads, 2 parts, 3 swears.");
+        // n 3, a 5: shakes 5 times x and 3, reads 5 less, parts by 2
+        actsOf(HEARER, 0, 3, -2, 0, -2 ^ 150);
+        actsOf(HEARER, -9, -42, -47, -4, -47 ^ 150);
+        actsOf(JUDGE, -9, -42, -94, -4, -94 ^ 150);
+        // parts(3) is 3 by 2
+        actsOf(ADVOCATE, -9, -46, -51, -4, (-51 ^ 150) + 1);
+        // parts -27 by 2, and 2; shakes -42 and 5, reads twice (-37 less 5)
+        actsOf(ELDER, -9, -37, -84, -11, -84 ^ 150);
+        // shakes 0 less -46; reads (46 less 5) ^ shakes(5), which is 0 less 24
+        actsOf(LIAR, -9, 46, 41 ^ -24, -4, (41 ^ -24 ^ 150) + 1);
+        // parts -4 less shakes(3), which is 18
+        actsOf(HORSE, -9, -42, -47, -22, (-47 ^ 150) * 2);
     }
 
     private static void actCut() {
@@ -766,6 +836,11 @@ public final class EdgesThingsTest {
             arms[i] = g.of(i, 3);
         }
         Edge.told(g, "say 1;hearer;wear 7;");
+        Edge.sayings(g, 11);
+        Edge.hearers(g, 7);
+        for (int i = 0; i < 3; i++) {
+            g.alter(11, i, 1);
+        }
         due("eight of them", g.again(), 8);
         due("twelve SAYINGS", g.state(1), 12);
         due("SAID", g.state(0), 12);

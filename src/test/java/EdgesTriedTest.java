@@ -150,6 +150,7 @@ public final class EdgesTriedTest {
         due("on its ARM, not SO", Edge.courtOf("say 0 heat 9;hearer;").right(0), 0);
         due("not on its ARM, SO", Edge.courtOf("say 0 heat 0 so;horse minds 0;").right(0), 0);
         due("neither", Edge.courtOf("say 0 heat 0;horse minds 0;").right(0), 1);
+        due("the twelfth's TOPIC, too", Edge.courtOf("say 0 heat 0;".repeat(11) + "say 7 so;hearer minds 128;").right(0), 12);
         GooseArms g = Edge.courtOf("say 0 so;".repeat(12) + "wear 0;hearer;horse minds 0;");
         due("all twelve", g.right(0), 12);
         due("none of twelve", g.right(1), 0);
@@ -206,6 +207,8 @@ public final class EdgesTriedTest {
         due("the elder, by twos: 5 of 10", Edge.courtOf("say 0;elder tender 0;").heatFor(0, 0), 5);
         // 8 are 7 behind the first
         due("when it comes to it", Edge.courtOf("say 0 heat 0;say 0 heat 0;hearer tender 8;").heatFor(1, 0), 1);
+        due("the twelfth, none said", Edge.courtOf("say 0;".repeat(12) + "hearer minds 0;").heatFor(11, 0), 8);
+        due("the first of twelve", Edge.courtOf("say 0;".repeat(12) + "hearer minds 0;").heatFor(0, 0), 8);
     }
 
     private static void heatForSaid() {
@@ -330,6 +333,8 @@ public final class EdgesTriedTest {
         due("the second and the fourth", g.enough(), 10);
         sentence(28, "when all that are left were said");
         due("already said", allSaid("hearer;").enough(), 1);
+        due("the twelfth is left, too", Edge.courtOf("say 0;".repeat(11) + "say 7 heat 0 so;hearer;hearer tender 8 minds 128;").enough(), 2);
+        due("the twelfth alone is by nobody", Edge.courtOf("say 0 so;".repeat(11) + "say 7 heat 0 so;wear 0;hearer;").enough(), NONE);
     }
 
     private static void enoughOfEight() {
